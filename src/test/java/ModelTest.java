@@ -20,9 +20,11 @@ public final class ModelTest {
                 run.step();
             }
         }
-        for (int seed = 1001; seed <= 1060; seed++) {
-            new ModelTest(seed).longTape();
+        for (int seed = 1001; seed <= 1040; seed++) {
+            new ModelTest(seed).mixedTape();
+            new ModelTest(seed).deepTape();
         }
+        new ModelTest(1041).wildTape();
         Check.end("ModelTest");
     }
 
@@ -129,7 +131,6 @@ public final class ModelTest {
 
     private void block(Bits bits) {
         bits.number(chance.nextInt(20), 16);
-        // T of the symbols 0, 1, 2 and some lengths, P of some distances: deep or flat.
         smallTree(bits, 19, 5, true);
         if (chance.nextInt(4) == 0) {
             bits.number(0, 9).number(chance.nextInt(512), 9);
@@ -209,38 +210,64 @@ public final class ModelTest {
         }
     }
 
-    /** Up to 4000 bytes of one make, written in several blocks, and read again. */
-    private void longTape() {
+    private void add(int v) {
+        Check.same(name + "fill", desk.fill(v, 1), model.fill(v, 1));
+    }
+
+    /** Bytes of few or many kinds, some of them again and again. */
+    private void mixedTape() {
         int kinds = 1 + chance.nextInt(256);
         int repeat = chance.nextInt(30);
         for (int k = 0; k < 200; k++) {
-            if (chance.nextInt(30) < repeat && onTape() > 40) {
-                int from = chance.nextInt(onTape() - 40);
-                for (int i = 0; i < 20; i++) {
-                    desk.fill(model.peek(from + i), 1);
-                    model.fill(model.peek(from + i), 1);
-                }
-            } else {
-                for (int i = 0; i < 20; i++) {
-                    int v = kinds < 20 ? (int) Math.abs(chance.nextGaussian() * kinds) : chance.nextInt(kinds);
-                    desk.fill(v, 1);
-                    model.fill(v, 1);
-                }
+            boolean again = chance.nextInt(30) < repeat && onTape() > 40;
+            int from = again ? chance.nextInt(onTape() - 40) : 0;
+            for (int i = 0; i < 20; i++) {
+                int v = kinds < 20 ? (int) Math.abs(chance.nextGaussian() * kinds) : chance.nextInt(kinds);
+                add(again ? model.peek(from + i) : v);
             }
         }
+        writeAndRead();
+    }
+
+    /** Nothing to copy: the archive is greater than the tape can be. */
+    private void wildTape() {
+        for (int i = 0; i < 4000; i++) {
+            add(chance.nextInt(256));
+        }
+        writeAndRead();
+    }
+
+    /** Copies of which each length and each distance is half as frequent as another: deep trees. */
+    private void deepTape() {
+        int farthest = 9 + chance.nextInt(3);
+        for (int i = 0; i < 1 << farthest; i++) {
+            add(chance.nextInt(256));
+        }
+        while (onTape() < 3960) {
+            int length = 3 + halving();
+            int p = Math.max(3, farthest - halving());
+            int from = onTape() - (1 << p - 1) - 1 - chance.nextInt(1 << p - 1);
+            for (int i = 0; i < length; i++) {
+                add(model.peek(from + i));
+            }
+        }
+        writeAndRead();
+    }
+
+    private int halving() {
+        return Integer.numberOfTrailingZeros(chance.nextInt() | 1 << 12);
+    }
+
+    private void writeAndRead() {
         int n = onTape();
         same("write", desk.write(n), model.write(n));
         look();
-        int fit = same4000(desk.back(), model.back());
+        int fit = model.back();
+        same("back", desk.back(), fit);
         if (fit >= 0) {
-            same("read", desk.read(fit, n), model.read(fit, n));
-            same("no fault", desk.told(1), model.told(1));
+            same("read", desk.read(fit, n), 0);
+            same("read by the model", model.read(fit, n), 0);
             look();
         }
-    }
-
-    private int same4000(int got, int due) {
-        same("back", got, due);
-        return due;
     }
 }
