@@ -949,7 +949,10 @@ public final class ArchiveDesk {
             for (int block = 0; block < bytes && place < bytes; block++) {
                 account.beginBlock();
                 place = gatherCodes(place, bytes);
-                shapeTrees();
+                merger.shape(treeC);
+                merger.shape(treeP);
+                gatherTellers();
+                merger.shape(treeT);
                 packBlock();
             }
             account.close(sink.given());
@@ -975,13 +978,6 @@ public final class ArchiveDesk {
                 codeCount++;
             }
             return place;
-        }
-
-        private void shapeTrees() {
-            merger.shape(treeC);
-            merger.shape(treeP);
-            gatherTellers();
-            merger.shape(treeT);
         }
 
         private void gatherTellers() {

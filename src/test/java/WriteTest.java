@@ -74,10 +74,13 @@ public final class WriteTest {
         writes("two bytes", desk(1, 0), head(2).plain("00000 00011").number(2, 9).plain(NO_P).plain("10"));
     }
 
-    /** 7 and a copy of 3: lengths of 1, with rows of 7 and of 248 lengths 0 before them. */
     private static void oneCopy() {
+        // Lengths of 1 for the byte 7 and the copy, rows of 7 and of 248 lengths 0 before them.
         writes("a copy from 1", desk(7, 7, 7, 7), head(2).plain("00100 000 010 010 00 001")
             .number(257, 9).plain("10 0100 0 11 011100100 0").plain(NO_P).plain("0 1"));
+        // P is of its symbol 2 alone; a bit behind tells 4, not 3.
+        writes("a copy from 4", desk(0, 1, 2, 3, 0, 1, 2), head(5).plain("00110 000 000 010 01 001 010")
+            .number(257, 9).plain("11 11 0 0 10 011101000 0").plain("0000 0010").plain("110 111 00 01 10 1"));
     }
 
     private static void rowsOfZeros() {
@@ -133,9 +136,9 @@ public final class WriteTest {
 
     private static void leastDistance() {
         // Both copies are from 4; the second one could be from 8 too, with another symbol of P.
-        ArchiveDesk desk = text("abcXabcYabc");
-        desk.write(11);
-        Check.same("codes", desk.told(1), 7);
+        ArchiveDesk desk = text("abcXabcYabcZ");
+        desk.write(12);
+        Check.same("codes", desk.told(1), 8);
         Check.same("copies", desk.told(2), 2);
         Check.same("no second symbol of P", desk.length(2, 3), 0);
         Check.same("P is of one symbol", desk.length(2, 2), 0);
