@@ -770,7 +770,7 @@ public final class ArchiveDesk {
         }
 
         private int chainOf(int place) {
-            return (row.at(place) * 961 + row.at(place + 1) * 31 + row.at(place + 2)) % CHAINS;
+            return row.at(place) * 961 + row.at(place + 1) * 31 + row.at(place + 2) & CHAINS - 1;
         }
 
         /** True when there is a copy at that place; then its length and distance are known. */
