@@ -2,8 +2,14 @@
 final class Check {
     private static int calls = 0;
     private static int wrong = 0;
+    private static String sentence = "";
 
     private Check() {
+    }
+
+    /** What comes now is for this sentence of the document, under this heading. */
+    static void sentence(String heading, String words) {
+        sentence = heading + ", \"" + words + "\": ";
     }
 
     static void same(String call, long got, long due) {
@@ -11,7 +17,7 @@ final class Check {
         if (got != due) {
             wrong++;
             if (wrong <= 20) {
-                System.out.println(call + " answered " + got + ", due is " + due);
+                System.out.println(sentence + call + " answered " + got + ", due is " + due);
             }
         }
     }

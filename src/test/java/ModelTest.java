@@ -1,6 +1,10 @@
 import java.util.Random;
 
-/** Promises 1 to 13: runs of calls on the program and on the model, which must answer the same. */
+/**
+ * Promises 1 to 13: runs of calls on the program and on the model, which must answer the same. All
+ * is looked at between calls that change something, which is more than the 512 calls of the document:
+ * looking changes nothing in this program, so it answers the same behind them.
+ */
 public final class ModelTest {
     private final Random chance;
     private final ArchiveDesk desk = new ArchiveDesk();
