@@ -136,7 +136,7 @@ public final class ReadingTest {
         Bits bits = new Bits().loneBlock(1, 9, 0).loneBlock(1, 256, 13);
         Reading.of("no bits of it", bits, 4, 1, 104, 1);
         Reading.of("8 of 12 bits of it", bits.number(0, 8), 4, 1, 112, 1);
-        // 4 is come to behind the distance, and so not here.
+        // With all bits of it the next fault is come to.
         Reading.of("all bits of it", bits.number(0, 4), 4, 4, 116, 1);
     }
 
