@@ -121,6 +121,7 @@ public final class WritingTest {
         // P is of its symbol 2 alone; a bit behind tells 4, not 3.
         writes("from 4", Tapes.of(0, 1, 2, 3, 0, 1, 2), Bits.head(5).plain("00110 000 000 010 01 001 010")
             .number(257, 9).plain("11 11 0 0 10 011101000 0").plain("0000 0010").plain("110 111 00 01 10 1"));
+        // The farthest that there is on a tape of 4000 bytes: 8191 is never come to.
         ArchiveDesk desk = Tapes.text("abc");
         desk.fill(7, 3994);
         Tapes.add(desk, 'a', 'b', 'c');
@@ -505,7 +506,8 @@ public final class WritingTest {
     }
 
     private static void gapAsGreatAsCanBe() {
-        Check.sentence(WRITING, "z is as great as can be (3 at most");
+        Check.sentence(WRITING, "z is as great as can be (3 at most, lengths behind the last one being 0)");
+        // The last one is the symbol of a length, 3 or more: none behind it is ever among the z.
         gapOfT(2, 1, "00100 001 000 000 00 001");
         gapOfT(4, 2, "00101 001 000 000 01 001");
         gapOfT(8, 3, "00110 001 000 000 10 001");
